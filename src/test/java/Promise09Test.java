@@ -39,6 +39,9 @@ public final class Promise09Test {
         Checks.equal("undo", 2, x.undo());
         Checks.equal("undo", 1, x.undo());
         limits(x, 1, 499, 500, 501, 9999);
+        Checks.equal("the largest limit taken away", 4, x.limit(3, 9999));
+        Checks.equal("and added again", 5, x.limit(3, 9999));
+        limits(x, 1, 499, 500, 501, 9999);
         Checks.end();
     }
 }

@@ -6,6 +6,23 @@ public final class Promise12Test {
         }
     }
 
+    /** The first kind, whose lines are the first ones. */
+    private static void first() {
+        SightLegend x = new SightLegend();
+        x.limit(0, 1);
+        x.addSign(0, 50, 50, 0, 0);
+        x.addSign(0, 50, 50, 1, 0);
+        x.addSign(0, 50, 50, 1, 0);
+        x.addSign(11, 50, 50, 0, 0);
+        kind(x, 0, 0, -1, 1, 1, -1, -1, -1, -1, 2, 3);
+        kind(x, 11, 11, -1, 0, -1, -1, -1, -1, -1, 1, 1);
+        x.removeSign(3);
+        kind(x, 0, 0, -1, 1, 1, -1, -1, -1, -1, 2, 3);
+        kind(x, 11, 11, -1, 0, -1, -1, -1, -1, -1, 0, 0);
+        x.setWindow(60, 60, 10, 10, 5);
+        kind(x, 0, 0, -1, 1, 1, -1, -1, -1, -1, 0, 0);
+    }
+
     public static void main(String[] args) {
         SightLegend x = new SightLegend();
         Checks.noIndex("kind -1", x, () -> x.kind(-1, 0));
@@ -36,6 +53,7 @@ public final class Promise12Test {
         x.addSign(3, 0, 99, 0, 0);
         x.addSign(3, 99, 99, 0, 0);
         kind(x, 3, 44, 1, 0, -1, -1, -1, -1, -1, 1, 4);
+        first();
         Checks.end();
     }
 }

@@ -82,6 +82,23 @@ public final class Promise14Test {
         Checks.line(ranks, 1, 0, 1, 0, 0, 0, 1);
         Checks.line(ranks, 2, 0, 11, 0, 0, 0, 1);
         Checks.line(ranks, 3, 0, 6, -1, 0, 0, 1);
+
+        // a kind out of sight lends its block no rank, and makes no heading
+        SightLegend unseen = new SightLegend();
+        unseen.setKind(1, 0, 3);
+        unseen.setKind(2, 50, 3);
+        unseen.addSign(1, 150, 50, 0, 0);
+        unseen.addSign(2, 50, 50, 0, 0);
+        unseen.addSign(11, 50, 50, 0, 0);
+        Checks.equal("lines()", 2, unseen.lines());
+        Checks.line(unseen, 0, 0, 11, -1, 0, 0, 1);
+        Checks.line(unseen, 1, 0, 2, 3, 0, 0, 1);
+        unseen.moveSign(0, 51, 50);
+        Checks.equal("lines() then", 4, unseen.lines());
+        Checks.line(unseen, 0, 1, -1, 3, -1, -1, 0);
+        Checks.line(unseen, 1, 0, 1, 3, 0, 0, 1);
+        Checks.line(unseen, 2, 0, 2, 3, 0, 0, 1);
+        Checks.line(unseen, 3, 0, 11, -1, 0, 0, 1);
         Checks.end();
     }
 }

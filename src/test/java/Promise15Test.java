@@ -71,6 +71,16 @@ public final class Promise15Test {
         hidden.addSign(4, 20, 20, 0, 0);
         Checks.box(hidden, 0, 10, 10, 20, 6, 2);
         Checks.equal("of them in sight", 0, hidden.rounds(2));
+
+        SightLegend full = new SightLegend();
+        full.setWindow(0, 0, 10, 10, 5);
+        full.set(2, 9);
+        full.set(3, 9);
+        full.addSign(0, 0, 0, 0, 0);
+        for (int i = 1; i < 40; i++) {
+            full.addSign(0, 5, 5, 0, 0);
+        }
+        Checks.box(full, 1, 1, 0, 9, 9, 39);
         Checks.end();
     }
 }

@@ -1,6 +1,58 @@
 /** rounds. */
 public final class Promise16Test {
+    /** In round 2 a sign is covered, and as many lines stand for other classes. */
+    private static void otherClasses(int hiddenClass, int firstClass, int lastClass) {
+        SightLegend x = new SightLegend();
+        x.set(0, 2);
+        x.limit(0, 10);
+        x.limit(0, 20);
+        int hidden = hiddenClass * 10;
+        x.addSign(0, 0, 0, hidden, 0);
+        x.addSign(0, 50, 50, 10, 0);
+        for (int i = 0; i < 5; i++) {
+            x.addSign(0, 50, 50, 20 - hidden, 0);
+        }
+        x.addSign(0, 99, 0, 20 - hidden, 0);
+        x.addSign(0, 0, 99, 20 - hidden, 0);
+        x.addSign(0, 99, 99, 20 - hidden, 0);
+        Checks.rounds(x, 3, 1, 0);
+        Checks.equal("firstLines()", 2, x.firstLines());
+        Checks.equal("lines()", 2, x.lines());
+        Checks.line(x, 0, 0, 0, -1, firstClass, firstClass);
+        Checks.line(x, 1, 0, 0, -1, lastClass, lastClass);
+    }
+
+    /**
+     * Round 1 has two lines and a box over the second one's signs, round 2 has the first line
+     * and a box over its signs, rounds 3 and 4 have the second line.
+     */
+    private static void otherKinds(boolean joined) {
+        SightLegend x = new SightLegend();
+        x.setWindow(0, 0, 10, 10, 5);
+        x.set(2, 10);
+        x.set(3, 4);
+        int[] groups = {0, 0, 1, 1};
+        for (int kind = 0; kind < 4 && joined; kind++) {
+            x.setKind(kind, kind, groups[kind]);
+            x.setWay(groups[kind], 1);
+        }
+        x.addSign(0, 5, 8, 0, 0);
+        x.addSign(joined ? 1 : 0, 5, 9, 0, 0);
+        x.addSign(2, 5, 2, 0, 0);
+        x.addSign(joined ? 3 : 2, 5, 3, 0, 0);
+        x.addSign(2, 6, 3, 0, 0);
+        Checks.rounds(x, 4, 1, 0);
+        Checks.equal("firstLines()", 2, x.firstLines());
+        Checks.equal("lines()", 1, x.lines());
+        Checks.line(x, 0, joined ? 2 : 0, joined ? -1 : 2, joined ? 1 : -1);
+        Checks.box(x, 2, 0, 6, 10, 4, 2);
+    }
+
     public static void main(String[] args) {
+        otherClasses(0, 1, 2);
+        otherClasses(2, 0, 1);
+        otherKinds(false);
+        otherKinds(true);
         SightLegend x = new SightLegend();
         Checks.noArgument("rounds(-1)", x, () -> x.rounds(-1));
         Checks.noArgument("rounds(3)", x, () -> x.rounds(3));

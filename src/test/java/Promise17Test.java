@@ -22,6 +22,17 @@ public final class Promise17Test {
         Checks.equal("joined", 1, x.firstLines());
         x.undo();
         Checks.equal("behind undo", 3, x.firstLines());
+
+        // an earlier legend's box hides nothing in round 1 of the next one
+        SightLegend again = new SightLegend();
+        int[][] corners = {{0, 0}, {99, 0}, {0, 99}, {99, 99}, {50, 50}};
+        for (int kind = 0; kind < 5; kind++) {
+            again.addSign(kind, corners[kind][0], corners[kind][1], 0, 0);
+        }
+        Checks.equal("the lines left", 4, again.lines());
+        again.set(0, 2);
+        Checks.equal("the first lines behind a change", 5, again.firstLines());
+        Checks.equal("the lines left behind a change", 4, again.lines());
         Checks.end();
     }
 }

@@ -22,6 +22,17 @@ public final class Promise21Test {
         Checks.equal("nothing has changed", before, x.digest());
         x.setWindow(10, 9, 20, 20, 5);
         Checks.equal("another window", 5, x.zoomFor(4));
+        x.setWindow(0, 0, 10, 10, 0);
+        x.addSign(8, 0, 0, 0, 5);
+        Checks.equal("the last sign", 5, x.zoomFor(8));
+        x.removeSign(8);
+        Checks.equal("the last sign is removed", 0, x.zoomFor(8));
+
+        SightLegend one = new SightLegend();
+        one.addSign(0, 0, 0, 0, 4);
+        Checks.equal("the first sign", 4, one.zoomFor(0));
+        one.addSign(0, 0, 0, 0, 2);
+        Checks.equal("the first sign of two", 4, one.zoomFor(0));
         Checks.end();
     }
 }
