@@ -74,23 +74,37 @@ public final class LanguageTest {
     }
 
     private static void source() throws IOException {
-        int start = 0;
         List<String> lines = Files.readAllLines(Path.of(SOURCE));
         for (int i = 0; i < lines.size(); i++) {
-            String line = lines.get(i);
-            String indent = line.substring(0, line.length() - line.stripLeading().length());
-            boolean comment = line.strip().startsWith("*") || line.strip().startsWith("/");
+            String line = lines.get(i).strip();
+            boolean comment = line.startsWith("*") || line.startsWith("/");
             for (String word : BANNED) {
                 Checks.equal(word + " in line " + (i + 1), 0, !comment && line.contains(word) ? 1 : 0);
             }
-            if ((indent.length() == 4 || indent.length() == 8) && line.endsWith(") {")) {
+        }
+        lengths(lines);
+    }
+
+    /** Methods stand four spaces deep, those of the classes inside eight. */
+    private static void lengths(List<String> lines) {
+        int methods = 0;
+        int depth = 4;
+        int start = 0;
+        for (int i = 0; i < lines.size(); i++) {
+            String line = lines.get(i);
+            int indent = line.length() - line.stripLeading().length();
+            if (indent == 4 && line.contains(" class ")) {
+                depth = 8;
+            } else if (depth == 8 && line.equals("    }")) {
+                depth = 4;
+            } else if (indent == depth && line.contains("(")) {
                 start = i;
-            }
-            if (line.strip().equals("}") && indent.length() <= 8) {
-                Checks.equal("a method too long up to line " + (i + 1), 0, i - start > LONGEST_METHOD
-                        && lines.get(start).startsWith(indent + " ") ? 1 : 0);
+            } else if (indent == depth && line.endsWith("}")) {
+                methods++;
+                Checks.equal("a method too long, line " + (start + 1), 0, i - start >= LONGEST_METHOD ? 1 : 0);
             }
         }
+        Checks.equal("methods are found", 1, methods > 50 ? 1 : 0);
     }
 
     public static void main(String[] args) throws IOException {
