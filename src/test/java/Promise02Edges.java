@@ -43,8 +43,10 @@ final class Promise02Edges {
             Checks.equal("the second one", 1, x.addSign(3, 4, 5, 6, 1));
             Checks.equal("value(9)", 2, x.value(9));
         });
-        Sentences.holds(RETURNS, "the first one", () -> Checks.equal("addSign", 0, new SightLegend().addSign(5, 1, 1, 1, 1)));
-        Sentences.holds(RETURNS, "the 40th one", () -> Checks.equal("addSign", 39, withSigns(39).addSign(5, 1, 1, 1, 1)));
+        Sentences.holds(RETURNS, "the first one", () ->
+                Checks.equal("addSign", 0, new SightLegend().addSign(5, 1, 1, 1, 1)));
+        Sentences.holds(RETURNS, "the 40th one", () ->
+                Checks.equal("addSign", 39, withSigns(39).addSign(5, 1, 1, 1, 1)));
         Sentences.holds(RETURNS, "behind a removed one", () -> {
             SightLegend x = withSigns(3);
             x.removeSign(0);
@@ -99,7 +101,8 @@ final class Promise02Edges {
     }
 
     private static void full() {
-        Sentences.holds(FULL, "39 signs: taken", () -> Checks.equal("addSign", 39, withSigns(39).addSign(0, 0, 0, 0, 0)));
+        Sentences.holds(FULL, "39 signs: taken", () ->
+                Checks.equal("addSign", 39, withSigns(39).addSign(0, 0, 0, 0, 0)));
         Sentences.holds(FULL, "full: refused", () -> {
             SightLegend x = withSigns(40);
             Checks.noState("addSign", x, () -> x.addSign(0, 0, 0, 0, 0));

@@ -19,7 +19,8 @@ final class Promise18Edges {
             Checks.equal("of one", 1.0, one.explained());
             Checks.equal("of forty", 1.0, Promise02Edges.withSigns(40).explained());
         });
-        Sentences.holds(RETURNS, "three of four", () -> Checks.equal("explained()", 0.75, Promise10Edges.corners().explained()));
+        Sentences.holds(RETURNS, "three of four", () ->
+                Checks.equal("explained()", 0.75, Promise10Edges.corners().explained()));
         Sentences.holds(RETURNS, "one of three: a share that no double is", () -> {
             // top left, the box would cover rows 0 to 7, with three signs; below, rows 2 to 9, with two
             SightLegend x = new SightLegend();

@@ -52,6 +52,15 @@ final class Promise19Edges {
             Checks.values(x, 4, 0, 0, 100, 100, 5);
             Checks.values(x, 9, 4, 4, 3);
         });
+        Sentences.holds(TELLS, "behind other calls that ask what if", () -> {
+            SightLegend x = map();
+            Checks.equal("linesAt(199, 199)", 1, x.linesAt(199, 199));
+            Checks.equal("linesAt(0, 0)", 0, x.linesAt(0, 0));
+            Checks.equal("linesSaved(0)", 0, x.linesSaved(0));
+            Checks.equal("linesAt(90, 110)", 1, x.linesAt(90, 110));
+            Checks.equal("bestColumns()", 1, x.bestColumns());
+            Checks.equal("linesAt(90, 110)", 1, x.linesAt(90, 110));
+        });
         Sentences.holds(RETURNS, "empty: no signs", () ->
                 Checks.equal("linesAt", 0, new SightLegend().linesAt(0, 0)));
         Sentences.holds(RETURNS, "the window as it is", () -> {
@@ -60,7 +69,8 @@ final class Promise19Edges {
             SightLegend most = Promise13Edges.mostLines();
             Checks.equal("linesAt(0, 0) of the most lines", 45, most.linesAt(0, 0));
         });
-        Sentences.holds(RETURNS, "the last corner of the map", () -> Checks.equal("linesAt", 1, map().linesAt(199, 199)));
+        Sentences.holds(RETURNS, "the last corner of the map", () ->
+                Checks.equal("linesAt", 1, map().linesAt(199, 199)));
         Sentences.holds(RETURNS, "of the last round, not of the first", () -> {
             SightLegend x = Promise10Edges.allCovered(3);
             x.setWindow(50, 50, 10, 10, 5);

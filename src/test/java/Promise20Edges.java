@@ -26,17 +26,29 @@ final class Promise20Edges {
 
     static void tests() {
         Sentences.of("Promise 20");
-        Sentences.holds(RETURNS, "empty: of four that explain none, 1", () ->
-                Checks.equal("bestColumns()", 1, new SightLegend().bestColumns()));
+        Sentences.holds(RETURNS, "empty: of four that explain none, 1", () -> {
+            SightLegend x = new SightLegend();
+            Checks.equal("bestColumns()", 1, x.bestColumns());
+            x.set(1, 4);
+            Checks.equal("bestColumns() with four", 1, x.bestColumns());
+        });
         Sentences.holds(RETURNS, "shown signs, of which none can be explained", () ->
                 Checks.equal("bestColumns()", 1, Promise10Edges.allCovered(12).bestColumns()));
-        Sentences.holds(RETURNS, "of four that explain all, 1", () ->
-                Checks.equal("bestColumns()", 1, Promise02Edges.withSigns(40).bestColumns()));
+        Sentences.holds(RETURNS, "of four that explain all, 1", () -> {
+            for (int present = 1; present <= 4; present++) {
+                SightLegend x = Promise02Edges.withSigns(40);
+                x.set(1, present);
+                Checks.equal("bestColumns()", 1, x.bestColumns());
+            }
+        });
         Sentences.holds(RETURNS, "the largest, 4", () -> Checks.equal("bestColumns()", 4, four().bestColumns()));
         Sentences.holds(RETURNS, "of 2, 3 and 4 the smallest one", () -> {
-            SightLegend x = four();
-            x.set(3, 10);
-            Checks.equal("bestColumns()", 2, x.bestColumns());
+            for (int present = 1; present <= 4; present++) {
+                SightLegend x = four();
+                x.set(3, 10);
+                x.set(1, present);
+                Checks.equal("bestColumns()", 2, x.bestColumns());
+            }
         });
         Sentences.holds(FINDS, "whatever the present number is", () -> {
             for (int columns = 1; columns <= 4; columns++) {
@@ -45,6 +57,13 @@ final class Promise20Edges {
                 Checks.equal("explained with " + columns, columns == 4 ? 8 : 7, x.value(11));
                 Checks.equal("bestColumns() with " + columns, 4, x.bestColumns());
             }
+        });
+        Sentences.holds(FINDS, "behind other calls that ask what if", () -> {
+            SightLegend x = four();
+            Checks.equal("linesAt(199, 199)", 0, x.linesAt(199, 199));
+            Checks.equal("bestColumns()", 4, x.bestColumns());
+            Checks.equal("linesSaved(2)", 1, x.linesSaved(2));
+            Checks.equal("bestColumns()", 4, x.bestColumns());
         });
         Sentences.holds(FINDS, "nothing changes, and nothing is saved", () -> {
             SightLegend x = four();

@@ -42,7 +42,8 @@ final class Promise22Edges {
             SightLegend x = Promise13Edges.mostLines();
             Checks.equal("linesSaved(39)", 1, x.linesSaved(39));
         });
-        Sentences.holds(TELLS, "a line and its heading go", () -> Checks.equal("linesSaved(0)", 2, group(0).linesSaved(0)));
+        Sentences.holds(TELLS, "a line and its heading go", () ->
+                Checks.equal("linesSaved(0)", 2, group(0).linesSaved(0)));
         Sentences.holds(TELLS, "a joined line becomes the line of one kind", () ->
                 Checks.equal("linesSaved(0)", 0, group(1).linesSaved(0)));
         Sentences.holds(TELLS, "a joined line becomes a heading and two lines", () -> {
@@ -67,6 +68,15 @@ final class Promise22Edges {
             SightLegend x = group(0);
             Checks.changesNothing("linesSaved", x, () -> x.linesSaved(0));
             Checks.equal("value(9)", 3, x.value(9));
+        });
+        Sentences.holds(TELLS, "behind other calls that ask what if", () -> {
+            SightLegend x = group(0);
+            Checks.equal("linesSaved(0)", 2, x.linesSaved(0));
+            Checks.equal("linesSaved(1)", 0, x.linesSaved(1));
+            Checks.equal("linesAt(50, 50)", 3, x.linesAt(50, 50));
+            Checks.equal("linesSaved(0)", 2, x.linesSaved(0));
+            Checks.equal("bestColumns()", 1, x.bestColumns());
+            Checks.equal("linesSaved(0)", 2, x.linesSaved(0));
         });
         Sentences.holds(NO_SIGN, "empty: no sign at all", () -> {
             SightLegend x = new SightLegend();

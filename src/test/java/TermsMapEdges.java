@@ -50,10 +50,14 @@ final class TermsMapEdges {
             Checks.sign(x, 39, 3, 69, 79, 39, 3);
             Checks.noIndex("sign(40, 0)", x, () -> x.sign(40, 0));
         });
-        Sentences.range(SIGN, 0, 199, NO_ARGUMENT, SightLegend::new, (x, a) -> x.addSign(1, a, 1, 1, 1), x -> x.sign(0, 1));
-        Sentences.range(SIGN, 0, 199, NO_ARGUMENT, SightLegend::new, (x, a) -> x.addSign(1, 1, a, 1, 1), x -> x.sign(0, 2));
-        Sentences.range(SIGN, 0, 9999, NO_ARGUMENT, SightLegend::new, (x, a) -> x.addSign(1, 1, 1, a, 1), x -> x.sign(0, 3));
-        Sentences.range(SIGN, 0, 5, NO_ARGUMENT, SightLegend::new, (x, a) -> x.addSign(1, 1, 1, 1, a), x -> x.sign(0, 4));
+        Sentences.range(SIGN, 0, 199, NO_ARGUMENT, SightLegend::new,
+                (x, a) -> x.addSign(1, a, 1, 1, 1), x -> x.sign(0, 1));
+        Sentences.range(SIGN, 0, 199, NO_ARGUMENT, SightLegend::new,
+                (x, a) -> x.addSign(1, 1, a, 1, 1), x -> x.sign(0, 2));
+        Sentences.range(SIGN, 0, 9999, NO_ARGUMENT, SightLegend::new,
+                (x, a) -> x.addSign(1, 1, 1, a, 1), x -> x.sign(0, 3));
+        Sentences.range(SIGN, 0, 5, NO_ARGUMENT, SightLegend::new,
+                (x, a) -> x.addSign(1, 1, 1, 1, a), x -> x.sign(0, 4));
     }
 
     private static void window() {

@@ -174,6 +174,12 @@ final class TermsRoundsEdges {
             Checks.rounds(x, 2, 1, 0);
             Checks.line(x, 0, 0, 0, -1, 0, 0, 3);
         });
+        Sentences.holds(END, "a range of several classes is the same line again", () -> {
+            SightLegend x = oneClassLess(0, 10);
+            x.addSign(0, 7, 9, 0, 0);
+            Checks.rounds(x, 2, 1, 0);
+            Checks.line(x, 0, 0, 0, -1, 0, 1, 4);
+        });
         Sentences.holds(END, "fewer lines", () -> Checks.rounds(fiveLinesThenFour(), 3, 1, 0));
         Sentences.holds(END, "as many lines of other kinds", () -> {
             Checks.rounds(otherKinds(), 4, 1, 0);
